@@ -215,6 +215,9 @@ final class PromisesTest {
         refused("5 not at its end", x, ahead, x.land(), STATE);
         x.wipe();
         due("5 no letters", x.land(), STATE);
+        Check.tell(x, "RD11TC011").fault();
+        Check.tell(x, "RD11TC010").land();
+        due("5 nothing of a text that was only looked at", x.count(4), 0);
         Check.tell(x, "R");
         due("5 land R", x.land(), 0);
         due("5 no places", x.count(1), 0);
@@ -231,6 +234,9 @@ final class PromisesTest {
                 due("6 place(" + p + ", " + what + ")", x.place(p, what), wants[p][what]);
             }
         }
+        x.turn(0);
+        due("6 ditch 0", x.place(0, 5), 0);
+        x.turn(0);
         x.turn(1);
         due("6 the least open ditch", x.place(0, 5), 2);
         x.turn(2);
@@ -299,6 +305,11 @@ final class PromisesTest {
         least.turn(0);
         due("8 now the stable's ditch is the least", least.hour(), 2);
         due("8 no more into the town", least.place(1, 1), 2);
+        StableRivers fork = Check.on("RM1D92M1C101C121");
+        fork.hour();
+        due("8 by the least of two open ones", fork.place(0, 1), 2);
+        due("8 by no other", fork.place(2, 1), 0);
+        due("8 of all stables", Check.on("RD92S9D93S2C011C231").hour(), 4);
     }
 
     // Promise 8, all at once
@@ -407,6 +418,7 @@ final class PromisesTest {
         due("12 0, 1, 6: not wet yet", x.judge(3, 16), NONE);
         due("12 0, 0, 1, 6, 6: the dam stays shut", x.judge(5, 166), NONE);
         due("12 the first figure is the first step", x.judge(4, 6610), NONE);
+        due("12 a single 0 is a step", x.judge(1, 0), NONE);
         due("12 a ditch that is not", x.judge(3, 662), 2);
         due("12 7 is nothing", x.judge(2, 67), 1);
         due("12 9 is nothing", x.judge(1, 9), 0);
@@ -515,6 +527,7 @@ final class PromisesTest {
         StableRivers fewer = Check.on("RD55S5TC011C121");
         due("15 fewest first", fewer.once(1, false), 3);
         due("15 then ditch 1 is turned", fewer.once(2, false), 1);
+        due("15 all are shut", Check.on("RD91TC011").once(1, false), 0);
         StableRivers clean = Check.on("RS0TC011");
         due("15 h = 0", clean.once(0, false), 1);
         StableRivers wet = Check.on("RD91TC011");
@@ -592,6 +605,7 @@ final class PromisesTest {
         }
         refused("18 nothing changes", x, ahead, 0, 0);
         due("18 no way to it", Check.on("RTS0S1S1").barred(12), 2);
+        due("18 place 0", Check.on("RS1D11").barred(12), 0);
         due("18 clean from the first", Check.on("RS0").barred(0), NONE);
         StableRivers wet = Check.on("RD91TS1C011C020");
         wet.hour();
@@ -624,6 +638,7 @@ final class PromisesTest {
         due("20 once", way.once(12, true), 1);
         due("20 by the other way", way.stuck(0, 12), 1);
         due("20 of no matter", way.stuck(1, 12), 0);
+        due("20 a later ditch that sticks", Check.on("RD55S0S5C010C020").stuck(1, 12), NONE);
         due("20 too late by the other way", way.stuck(0, 1), NONE);
         due("20 it did not, anyhow", way.stuck(1, 0), NONE);
         for (int bad : new int[] {-1, 13, LEAST, MOST}) {
@@ -657,6 +672,11 @@ final class PromisesTest {
         // Three dams, a stable of 1: each is first in a third of the orders.
         StableRivers three = Check.on("RD11D11D11S1C031C131C231");
         fraction("21 a third", three.share(2, 5, true), three.share(2, 5, false), 1, 3);
+        // 1, 2 and 3 of 4: by sets of those ahead (2 * 1 + 1 + 1 + 0) / 6, and so on; 4 in all.
+        StableRivers steps = Check.on("RD19D29D39S4C031C131C231");
+        fraction("21 dam of 1", steps.share(0, 1, true), steps.share(0, 1, false), 2, 3);
+        fraction("21 dam of 2", steps.share(1, 1, true), steps.share(1, 1, false), 7, 6);
+        fraction("21 dam of 3", steps.share(2, 1, true), steps.share(2, 1, false), 13, 6);
         // A dam behind a dam adds nothing, unless the one ahead has come.
         StableRivers row = Check.on("RD99D09S8C011C121");
         fraction("21 row, the first", row.share(0, 2, true), row.share(0, 2, false), 4, 1);
@@ -694,6 +714,7 @@ final class PromisesTest {
         }
         due("22 x = 11", x.chance(11, 0, false), OUTSIDE);
         refused("22 nothing changes", x, ahead, 0, 0);
+        fraction("22 no dams", Check.on("RS0TC011").chance(5, 1, true), Check.on("RS0TC011").chance(5, 1, false), 1, 1);
         // A dry dam wets its town only if it rains there.
         StableRivers town = Check.on("RD01TC011");
         fraction("22 dry", town.chance(2, 1, true), town.chance(2, 1, false), 4, 5);
@@ -822,6 +843,9 @@ final class PromisesTest {
         StableRivers two = Check.on("RD93D93S9S9C030C020C120");
         due("27 the least ditch of like ones", two.kings(2, 1, true), 2);
         due("27 what is left", two.kings(2, 1, false), 6);
+        StableRivers both = Check.on("RD93D93S9C021C120");
+        due("27 one runs, he digs the other too", both.kings(2, 1, true), 2);
+        due("27 both run for an hour", both.kings(2, 1, false), 3);
         // Ditch 0 goes ahead of ditch 1: the other one can take the water away by digging it.
         due("27 dig, taken away", two.kings(2, 2, false), 6);
         for (boolean first : new boolean[] {true, false}) {
@@ -865,6 +889,8 @@ final class PromisesTest {
         StableRivers town = Check.on("RS4TD91C211");
         due("29 100 for each wet town", town.days(1), 104);
         due("29 no town is wet now", town.count(7), 0);
+        due("29 no bucket more at a stable", Check.on("RTS0C101").days(1), 0);
+        due("29 place 0 lets go too", Check.on("RD91TC011").days(1), 100);
         StableRivers none = new StableRivers();
         none.seed(5);
         due("29 no places", none.days(40), 0);
@@ -958,5 +984,13 @@ final class PromisesTest {
         StableRivers two = Check.on("RS5S4TD99D11T");
         due("32 all dung", two.count(5), 9);
         due("32 all buckets", two.count(6), 10);
+        StableRivers zero = Check.on("RD91");
+        due("32 buckets of place 0", zero.count(6), 9);
+        StableRivers wet = Check.on("RTD91C101");
+        wet.hour();
+        due("32 wet place 0", wet.count(7), 1);
+        StableRivers rich = Check.on("RM3D91C101");
+        rich.hour();
+        due("32 worth of place 0", rich.count(8), 3);
     }
 }
