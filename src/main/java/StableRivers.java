@@ -719,8 +719,10 @@ public final class StableRivers {
                 return false;
             }
             for (int a = 0; a < places; a++) {
-                if (canDigFrom(a)) {
-                    return true;
+                for (int b = 0; b < places; b++) {
+                    if (canDigTo(a, b)) {
+                        return true;
+                    }
                 }
             }
             return false;
