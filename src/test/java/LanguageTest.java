@@ -4,7 +4,6 @@ import java.lang.reflect.Field;
 import java.lang.reflect.Method;
 import java.lang.reflect.Modifier;
 import java.nio.file.Files;
-import java.nio.file.Path;
 import java.util.Arrays;
 import java.util.Set;
 import java.util.TreeSet;
@@ -32,9 +31,7 @@ final class LanguageTest {
         theFace();
         theConstants();
         theClassesInside();
-        String source = Files.readString(Path.of(System.getProperty("stablerivers.source",
-                "src/main/java/StableRivers.java")));
-        theWords(withoutComments(source));
+        theWords(withoutComments(Files.readString(Project.MAIN)));
         Check.end("LanguageTest");
     }
 
