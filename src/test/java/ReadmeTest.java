@@ -5,13 +5,12 @@ import java.net.URL;
 import java.net.URLClassLoader;
 import java.nio.file.Files;
 import java.nio.file.Path;
+import java.nio.file.attribute.PosixFilePermission;
 import java.util.ArrayList;
 import java.util.List;
 import java.util.function.BiConsumer;
 import java.util.regex.Matcher;
 import java.util.regex.Pattern;
-import javax.tools.JavaCompiler;
-import javax.tools.ToolProvider;
 
 /** What README.md shows of the class's use is compiled and run, and must answer as README.md says. */
 final class ReadmeTest {
@@ -63,9 +62,8 @@ final class ReadmeTest {
         try {
             Path source = folder.resolve(NAME + ".java");
             Files.writeString(source, programOf(shown));
-            JavaCompiler compiler = ToolProvider.getSystemJavaCompiler();
-            int rc = compiler.run(null, null, null, "-cp", System.getProperty("java.class.path"),
-                    "-d", folder.toString(), source.toString());
+            int rc = new ProcessBuilder("javac", "-cp", System.getProperty("java.class.path"),
+                    "-d", folder.toString(), source.toString()).inheritIO().start().waitFor();
             Check.due("what README.md shows compiles", rc, 0);
             if (rc == 0) {
                 run(folder);
@@ -101,11 +99,12 @@ final class ReadmeTest {
         }
     }
 
-    private static void theCommand(String readme) {
+    private static void theCommand(String readme) throws IOException {
         List<String> commands = linesOf(readme, "sh");
         Check.due("one command runs the tests", commands.size(), 1);
         Check.isTrue("it is .ci/run", commands.contains(".ci/run"));
-        Check.isTrue(".ci/run can be run", Files.isExecutable(Project.RUN));
+        Check.isTrue(".ci/run can be run",
+                Files.getPosixFilePermissions(Project.RUN).contains(PosixFilePermission.OWNER_EXECUTE));
     }
 
     /** .ci/run takes files by their name, so a test with another name would never be run. */

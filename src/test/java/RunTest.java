@@ -66,7 +66,6 @@ final class RunTest {
         write(place.resolve("shared/tests"), "SecondRuns", GOOD);
         Files.createDirectories(project.resolve(".ci"));
         Files.copy(Project.RUN, project.resolve(".ci/run"));
-        project.resolve(".ci/run").toFile().setExecutable(true);
     }
 
     private static void write(Path folder, String name, String main) throws IOException {
@@ -77,7 +76,7 @@ final class RunTest {
     }
 
     private static Result run(Path place) throws Exception {
-        ProcessBuilder builder = new ProcessBuilder(place.resolve("project/.ci/run").toString());
+        ProcessBuilder builder = new ProcessBuilder("sh", place.resolve("project/.ci/run").toString());
         // It is to find its own files, wherever one stands.
         builder.directory(place.resolve("project/.ci").toFile());
         builder.redirectErrorStream(true);
